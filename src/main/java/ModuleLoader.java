@@ -402,13 +402,16 @@ public final class ModuleLoader {
 
         /** The bytes from an address that is a multiple of size (1, 2 or 4), with zeros above them. */
         int partAt(int address, int size) {
-            return (wordAt(address) >>> shiftOf(address)) & maskOf(size);
+            return holds(address) ? (words[address >> 2] >>> shiftOf(address)) & maskOf(size) : 0;
         }
 
         void putPart(int address, int size, int value) {
+            if (!holds(address)) {
+                return;
+            }
             int shift = shiftOf(address);
             int mask = maskOf(size) << shift;
-            putWord(address, (wordAt(address) & ~mask) | ((value << shift) & mask));
+            words[address >> 2] = (words[address >> 2] & ~mask) | ((value << shift) & mask);
         }
 
         boolean isGuarded(int address) {

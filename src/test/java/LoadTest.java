@@ -43,7 +43,7 @@ public final class LoadTest {
         ModuleLoader x = new ModuleLoader();
         FileWords.of(1, 2, 3, 4).load(x, "frst");
         x.unload(Asm.name("frst"), 0);
-        FileWords.of(9).load(x, "scnd");
+        FileWords.of(9).exports("aaaa", 1, 0).load(x, "scnd");
         Check.same("its word", x.peek(512), 9);
         Check.same("the rest of its row", x.peek(516), 2);
     }
@@ -244,5 +244,9 @@ public final class LoadTest {
         Check.faults("a call without a fault", x, 0, -1, 0, 1, 4);
         x.unload(NAME, 0);
         Check.faults("an unload without a fault", x, 0, -1, 0, 0, 0);
+        FileWords.of(0).init(0).feed(x);
+        Check.loadFault("an INIT that traps", x, NAME, 5, 8, -1);
+        FileWords.of(0).load(x, "modu");
+        Check.faults("nothing was run this time", x, 0, -1, 0, 0, 0);
     }
 }

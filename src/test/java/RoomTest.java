@@ -137,6 +137,23 @@ public final class RoomTest {
         checkNeeds("only what it imports itself", x, "dddd", 0, 1);
         checkNeeds("only what it imports itself", x, "aaaa", 1, 0);
         needsEightModules();
+        needsWhatLiesBehind();
+    }
+
+    private static void needsWhatLiesBehind() {
+        ModuleLoader x = new ModuleLoader();
+        FileWords.zeros(16).load(x, "gone");
+        FileWords.zeros(16).exports("bone", 0, 0).load(x, "bbbb");
+        FileWords.zeros(16).exports("cone", 0, 0).load(x, "cccc");
+        unload(x, "gone");
+        Check.same("before those it needs", FileWords.zeros(16).imports("bone", 0).imports("cone", 0).load(x, "user"), 512);
+        checkNeeds("behind it", x, "bbbb", 1, 0);
+        checkNeeds("behind it", x, "cccc", 1, 0);
+        Check.refusesState("unload", () -> x.unload(name("bbbb"), 0));
+        unload(x, "user");
+        FileWords.zeros(16).imports("bone", 0).load(x, "user");
+        checkNeeds("only one now", x, "user", 0, 1);
+        unload(x, "cccc");
     }
 
     private static void needsEightModules() {

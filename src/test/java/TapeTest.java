@@ -209,6 +209,10 @@ public final class TapeTest {
         Check.loadFault("a word is missing", x, Asm.name("next"), 0, 1, -1);
         FileWords.of(0, 0, 0).load(x, "zero");
         Check.same("a word that is 0 now", x.peek(528), 0);
+        FileWords.of(0).place(0, 0, -1, 0).place(4, 0, -1, 1).feed(x);
+        Check.loadFault("a second place that is too odd", x, Asm.name("next"), 0, 7, 1);
+        FileWords.of(0).place(0, 0, -1, 0).feed(x);
+        Check.same("without that place", x.load(Asm.name("next"), 0), 544);
     }
 
     private static void takesTheLargestFile() {
