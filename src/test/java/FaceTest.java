@@ -7,10 +7,24 @@ import java.util.TreeSet;
 
 /** The public face, and promise 1: a new object. */
 public final class FaceTest {
-    private static final Set<String> FACE = new TreeSet<>(Set.of("poke(int,int)", "seal()", "symbol(int,int,int)",
-        "feed(int)", "feedByte(int)", "load(int,int)", "fault(int)", "unload(int,int)", "call(int,int,int,int)",
-        "peek(int)", "isProtected(int)", "register(int)", "lookup(int,int)", "module(int,int)", "count(int)",
-        "at(int)"));
+    private static final String ARGUMENT_OR_STATE = " throws IllegalArgumentException,IllegalStateException";
+    private static final Set<String> FACE = new TreeSet<>(Set.of(
+        "void poke(int,int) throws IndexOutOfBoundsException,IllegalStateException",
+        "boolean seal()",
+        "void symbol(int,int,int)" + ARGUMENT_OR_STATE,
+        "int feed(int)",
+        "int feedByte(int)",
+        "int load(int,int)" + ARGUMENT_OR_STATE,
+        "int fault(int)",
+        "void unload(int,int)" + ARGUMENT_OR_STATE,
+        "int call(int,int,int,int)" + ARGUMENT_OR_STATE,
+        "int peek(int) throws IndexOutOfBoundsException",
+        "boolean isProtected(int)",
+        "int register(int)",
+        "int lookup(int,int)",
+        "int module(int,int)",
+        "int count(int)",
+        "int at(int)"));
 
     public static void main(String[] args) {
         hasTheDocumentsFace();
@@ -23,8 +37,7 @@ public final class FaceTest {
         Set<String> seen = new TreeSet<>();
         for (Method method : ModuleLoader.class.getDeclaredMethods()) {
             if (Modifier.isPublic(method.getModifiers())) {
-                String text = method.toString();
-                seen.add(text.substring(text.indexOf("ModuleLoader.") + 13, text.indexOf(')') + 1));
+                seen.add(method.toString().replace("public ", "").replace("ModuleLoader.", "").replace("java.lang.", ""));
             } else {
                 Check.yes(method + " is private", Modifier.isPrivate(method.getModifiers()));
             }

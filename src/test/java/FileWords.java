@@ -42,7 +42,11 @@ final class FileWords {
     }
 
     FileWords imports(String name, int check) {
-        imports.add(Asm.name(name));
+        return imports(Asm.name(name), check);
+    }
+
+    FileWords imports(int name, int check) {
+        imports.add(name);
         imports.add(check);
         return this;
     }
