@@ -20,6 +20,7 @@ public final class LoadEdgesTest {
         theLastWordMayBeInitAndExit();
         initTraps();
         initHasItsGuard();
+        imagesMayHoldNames();
         allIsPutBack();
         faultsAreOfTheLatest();
         otherQuestionsOfFaultAreNone();
@@ -353,6 +354,24 @@ public final class LoadEdgesTest {
                 }
             }
         }
+    }
+
+    /** Names that lie in the image, right before the parts that have names, are no names of the file. */
+    private static void imagesMayHoldNames() {
+        int expo = Asm.name("expo");
+        int mine = Asm.name("mine");
+        ModuleLoader x = new ModuleLoader();
+        FileWords.of(1).exports("expo", 0, 0).load(x, "ther");
+        x.symbol(NEXT, 0, 0);
+        Check.same("a symbol of a module", FileWords.of(expo, expo, expo, expo).exports("mine", 0, 0).load(x, "modu"), 528);
+        Check.same("it is not exported", x.module(NAME, 2), 1);
+        x.unload(NAME, 0);
+        FileWords.of(mine, mine, mine, mine).exports("mine", 0, 0).load(x, "modu");
+        Check.same("its own symbol", x.lookup(mine, 2), NAME);
+        x.unload(NAME, 0);
+        FileWords.of(expo, expo, expo, expo).imports("next", 0).load(x, "modu");
+        Check.same("it is not imported", x.module(NAME, 4), 0);
+        Check.same("it is not needed", x.module(Asm.name("ther"), 3), 0);
     }
 
     private static void allIsPutBack() {
